@@ -73,15 +73,12 @@ public final class HouseOfHours {
         if (!isRow(r)) {
             return BAD;
         }
-        Strip row = rows[r];
-        if (!row.isThere()) {
-            return refuse(NOTHING);
+        int wrong = wrongPlace(rows[r], i);
+        if (wrong != 0) {
+            return refuse(wrong);
         }
-        if (!row.has(i)) {
-            return refuse(BEYOND);
-        }
-        int was = row.cells[i];
-        row.cells[i] = v;
+        int was = rows[r].cells[i];
+        rows[r].cells[i] = v;
         return tell(was);
     }
 
@@ -89,14 +86,8 @@ public final class HouseOfHours {
         if (!isRow(r)) {
             return BAD;
         }
-        Strip row = rows[r];
-        if (!row.isThere()) {
-            return refuse(NOTHING);
-        }
-        if (!row.has(i)) {
-            return refuse(BEYOND);
-        }
-        return tell(row.cells[i]);
+        int wrong = wrongPlace(rows[r], i);
+        return wrong != 0 ? refuse(wrong) : tell(rows[r].cells[i]);
     }
 
     public int tear(int r) {
@@ -156,15 +147,12 @@ public final class HouseOfHours {
         if (!isText(t)) {
             return BAD;
         }
-        Strip text = texts[t];
-        if (!text.isThere()) {
-            return refuse(NOTHING);
+        int wrong = wrongPlace(texts[t], i);
+        if (wrong != 0) {
+            return refuse(wrong);
         }
-        if (!text.has(i)) {
-            return refuse(BEYOND);
-        }
-        int was = text.cells[i];
-        text.cells[i] = (byte) v;
+        int was = texts[t].cells[i];
+        texts[t].cells[i] = (byte) v;
         return was + MORE;
     }
 
@@ -643,6 +631,14 @@ public final class HouseOfHours {
     private int tell(int v) {
         asked = v;
         return 1;
+    }
+
+    /** The FINDING for which a place of a ROW or TEXT is refused; 0 if it is there. */
+    private static int wrongPlace(Strip strip, int i) {
+        if (!strip.isThere()) {
+            return NOTHING;
+        }
+        return strip.has(i) ? 0 : BEYOND;
     }
 
     /** The FINDING for which a ROW is refused as errands; 0 if it is not. */

@@ -219,6 +219,10 @@ public final class PromisesTest {
         told("no wrap-around", x, x.mean(0), MAX);
         Check.fill(x, 0, MIN, MIN);
         told("nor below", x, x.mean(0), MIN);
+        x.row(5, 40);
+        x.lay(5, 39, 81);
+        told("of 40", x, x.mean(5), 2);
+        told("MIN again", x, x.mean(0), MIN);
         Check.fill(x, 1);
         found("mean of none", x, x.mean(1), 4);
         found("mean(2)", x, x.mean(2), 1);
@@ -660,6 +664,17 @@ public final class PromisesTest {
         told("ROOM then", x, x.person(0, 1), 0);
         c.due("it stays kept as it was", x.on(1), 2);
         told("ROOM again", x, x.person(0, 1), 4);
+        c.due("undo(0)", x.undo(0), 2);
+        c.due("other DEEDS", x.turn(7, 1), 2);
+        c.due("other DEEDS", x.step(1, 2), 1000);
+        c.due("on(1)", x.on(1), 2);
+        c.due("the DEEDS as kept", x.undo(1), 1);
+        told("ROOM by these", x, x.person(0, 1), 0);
+        told("the HOUR was undone", x, x.person(1, 1), 1);
+        c.due("the DEEDS as kept", x.undo(0), 1);
+        told("ROOM by these", x, x.person(0, 1), 11);
+        told("DAYS by these", x, x.person(0, 3), 0);
+        c.due("door(7)", x.door(7), 0);
         found("on(0)", x, x.on(0), 1);
         c.due("on(3)", x.on(3), BAD);
         c.due("on(-1)", x.on(-1), BAD);
@@ -755,6 +770,9 @@ public final class PromisesTest {
         Check.fill(x, 0, 1, 11);
         c.due("the first of two", x.best(0, 0, 2), 3);
         holds("the first of two", x, 2, 0, 1);
+        Check.fill(x, 0, 2, 0);
+        c.due("here too", x.best(0, 0, 2), 2);
+        holds("here too", x, 2, 1, 0);
         Check.fill(x, 0, 4, 4, 4);
         c.due("the same", x.best(0, 0, 0), 4);
         holds("to the same ROW", x, 0, 0, 1, 2);
@@ -947,6 +965,9 @@ public final class PromisesTest {
         c.due("asked()", y.asked(), 6);
         c.due("3 would not do", y.change(2, 4), 1);
         c.due("the greater of 3 and 5", y.asked(), 5);
+        HouseOfHours z = Check.built("pA1pF1");
+        c.due("to stay", z.change(0, 1), 1);
+        c.due("asked()", z.asked(), 0);
         c.due("the same", x.change(1, 1), BAD);
         c.due("change(6, 0)", x.change(6, 0), BAD);
         c.due("change(0, 6)", x.change(0, 6), BAD);
@@ -1016,6 +1037,9 @@ public final class PromisesTest {
         // Two of them are a DAY older already.
         Check.fill(y, 2, 0, 0, 0, 0, 0, 0);
         chance("older than now, not than at first", y, y.ages(2, 0), 720, 1);
+        HouseOfHours z = Check.built("pL9");
+        Check.fill(z, 0, 750);
+        chance("behind 999 HOURS", z, z.ages(0, 999), 1, 1);
         c.due("ages(6, ..)", y.ages(6, 0), BAD);
         c.due("ages(-1, ..)", y.ages(-1, 0), BAD);
         c.due("ages(.., 1000)", y.ages(2, 1000), BAD);

@@ -149,11 +149,13 @@ public final class RulesTest {
         c.in("rule 11, methods");
         String[] lines = Files.readString(SOURCE).split("\n");
         int from = -1;
+        int heads = 0;
         String head = "";
         for (int i = 0; i < lines.length; i++) {
             String line = lines[i];
-            boolean opens = line.matches(" {4,8}[a-zA-Z].*\\) \\{");
+            boolean opens = line.matches(" {4}( {4})?(?!if|for|while|do|switch|else)[a-zA-Z].*\\) \\{");
             if (opens) {
+                heads++;
                 from = i;
                 head = line;
             }
@@ -162,6 +164,12 @@ public final class RulesTest {
                 from = -1;
             }
         }
+        int made = 0;
+        for (Class<?> type : all()) {
+            made += type.getDeclaredMethods().length;
+        }
+        // The two constructors that are written out begin alike.
+        c.due("methods and constructors seen", heads, made + 2);
     }
 
     /** Each call of the face with the numbers of a row; what they answer is told elsewhere. */
