@@ -740,6 +740,8 @@ public final class PromisesTest {
         c.due("in this order", x.errands(0, 0), 3 + 5 + 0 + 2);
         c.due("by STAIRS too", x.errands(2, 0), 3 + 2 + 0 + 2);
         c.due("a CHILD can't", x.errands(1, 0), NONE);
+        Check.fill(x, 0, 2, 7);
+        c.due("it does not go home", x.errands(0, 0), 7);
         Check.fill(x, 0);
         c.due("none", x.errands(0, 0), 0);
         Check.fill(x, 0, 6, 0, 6, 0, 6, 0, 6, 0);
@@ -990,6 +992,11 @@ public final class PromisesTest {
         c.due("by 3 and 4", Check.built("pA3pB4").round(), 12);
         c.due("by 5", Check.built("pA0pB5").round(), 12);
         c.due("by 7", Check.built("pA7").round(), 12);
+        HouseOfHours x = Check.built("pA0pB0pC0pD6pE6pF6");
+        c.due("all six", x.round(), 2);
+        Check.write(x, 3, "pA0pB0");
+        x.house(3);
+        c.due("those who went don't count", x.round(), 1);
     }
 
     private static void paces() {
